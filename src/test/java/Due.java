@@ -1,16 +1,27 @@
 /** Counts the answers that are not as due; each test's main method ends with end(). */
 final class Due {
+    private static String sentence = "";
     private static int wrong = 0;
     private static int asked = 0;
 
     private Due() {
     }
 
+    /** The answers that follow are due by these words of a promise. */
+    static void promise(int number, String words) {
+        sentence = "promise " + number + ", \"" + words + "\": ";
+    }
+
+    /** The answers that follow are due by these words of the document above its promises. */
+    static void terms(String words) {
+        sentence = "terms, \"" + words + "\": ";
+    }
+
     static void is(String call, long got, long want) {
         asked++;
         if (got != want) {
             wrong++;
-            System.out.println(call + " answered " + got + ", due is " + want);
+            System.out.println(sentence + call + " answered " + got + ", due is " + want);
         }
     }
 
