@@ -138,6 +138,7 @@ public final class InstructionsTest {
     }
 
     private static void moves() {
+        Due.terms("INSTRUCTIONS 0 CONST .. 6 SWAP");
         fits(0, 0, 0, "0");
         fits(1, 0, 0, "97");
         fits(2, 0, 0, "98");
@@ -170,6 +171,7 @@ public final class InstructionsTest {
     }
 
     private static void ints() {
+        Due.terms("INSTRUCTIONS 7 .. 18, 40 IN, 41 OUT");
         for (int op = 7; op <= 17; op++) {
             fits(op, 0, 0, "0", INT, INT);
             fits(op, 0, 0, "97 0", NULL, INT, INT);
@@ -184,6 +186,7 @@ public final class InstructionsTest {
     }
 
     private static void jumps() {
+        Due.terms("INSTRUCTIONS 19 IF .. 25 GOTO");
         fitsOnly(19, 0, 0, "", new int[] {INT});
         fits(20, 0, 0, "", INT, INT);
         fits(20, 0, 0, "0", INT, INT, INT);
@@ -209,6 +212,7 @@ public final class InstructionsTest {
     }
 
     private static void objects() {
+        Due.terms("INSTRUCTIONS 26 NEW .. 30 CAST");
         fits(26, 3, 0, "4");
         int[] intoTop = {TOP, LEFT, RIGHT, NULL};
         fitsOnly(27, 0, 0, "0", intoTop);
@@ -229,6 +233,7 @@ public final class InstructionsTest {
     }
 
     private static void rows() {
+        Due.terms("INSTRUCTIONS 31 ROW .. 34 TO");
         fitsOnly(31, 0, 0, "64", new int[] {INT});
         fitsOnly(31, 4, 0, "68", new int[] {INT});
         fitsOnly(32, 0, 0, "0", new int[] {INTS, TOPS, LEFTS, NULL});
@@ -258,6 +263,7 @@ public final class InstructionsTest {
     }
 
     private static void calls() {
+        Due.terms("INSTRUCTIONS 35 CALL");
         fits(35, 1, 0, "", INT, TOP, TOPS);
         fits(35, 1, 0, "", INT, LEFT, NULL);
         fits(35, 1, 0, "0", INT, INT, NULL, TOPS);
@@ -272,6 +278,7 @@ public final class InstructionsTest {
     }
 
     private static void sends() {
+        Due.terms("INSTRUCTIONS 36 SEND");
         fits(36, 0, 5, "64", TOP, INT);
         fits(36, 0, 5, "64", LEFT, INT);
         fits(36, 1, 5, "64", LEFT, INT);
@@ -285,6 +292,7 @@ public final class InstructionsTest {
     }
 
     private static void ends() {
+        Due.terms("INSTRUCTIONS 37 RETURN, 38 GIVE, 39 THROW");
         due(behind(NONE, 37, 0, 0), "nothing", 37);
         due(behind(NONE, 37, 0, 0, INT, TOP), "nothing", 37, INT, TOP);
         due(behind(INT, 37, 0, 0, INT), WRONG, 37, INT);
@@ -304,6 +312,7 @@ public final class InstructionsTest {
 
     /** A stack of one place takes one more only where an instruction takes one first. */
     private static void room() {
+        Due.terms("a place too many is wrong");
         int[] more = {0, 1, 5, 26, 40};
         for (int op : more) {
             Due.is("op " + op + " with no place left", inOnePlace(op, 0), 2);

@@ -14,6 +14,7 @@ public final class Promise09Test {
         onePlusTheWrongOne();
         theFirstThatIsWrong();
         asItIsTold();
+        onceMore();
         aTargetThatIsNoInstruction();
         theLastTarget();
         aTargetOfEachJump();
@@ -75,6 +76,19 @@ public final class Promise09Test {
         run.kind(NONE).is(0);
         run.handler(0, 0, 1, 0, 7).is(0);
         run.verify(0).is(1);
+    }
+
+    /** The first time ends with 1 still marked, to which only the handler of 2 comes. */
+    private static void onceMore() {
+        Due.terms("MARKED is instruction 0");
+        Run run = new Run().kinds(1).methods(1);
+        run.ops(0, 1, GOTO, 2).ops(0, 1, RETURN, 0).ops(0, 1, POP, 0);
+        run.handler(0, 2, 3, 0, 1).is(0);
+        for (int time = 0; time < 2; time++) {
+            run.verify(0).is(3);
+            run.looked().is(2);
+            run.stands(0, 1, 0, 0).is(1);
+        }
     }
 
     private static void aTargetThatIsNoInstruction() {

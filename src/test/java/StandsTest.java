@@ -14,20 +14,20 @@ public final class StandsTest {
     private static final int THROW = 39;
     private static final int IN = 40;
 
-    /** Each op with its operands and the types it needs (n NULL, i int), then how many places it puts. */
+    /** Each op with its x, the types that it needs (n NULL, i int) and how many places it puts. */
     private static final String[] PLACES = {
-        "0 0 0 :1", "1 0 0 :1", "2 0 0 :1", "3 0 0 i:0", "4 0 0 i:0", "5 0 0 i:2", "6 0 0 ii:2", "7 0 0 ii:1",
-        "8 0 0 ii:1", "9 0 0 ii:1", "10 0 0 ii:1", "11 0 0 ii:1", "12 0 0 ii:1", "13 0 0 ii:1", "14 0 0 ii:1",
-        "15 0 0 ii:1", "16 0 0 ii:1", "17 0 0 ii:1", "18 0 0 i:1", "19 0 0 i:0", "20 0 0 ii:0", "21 0 0 n:0",
-        "22 0 0 n:0", "23 0 0 nn:0", "24 0 0 nn:0", "25 0 0 :0", "26 0 0 :1", "27 0 0 n:1", "28 0 0 ni:0",
-        "29 0 0 n:1", "30 0 0 n:1", "31 0 0 i:1", "31 1 0 i:1", "32 0 0 n:1", "33 0 0 ni:1", "34 0 0 nii:0",
-        "35 0 0 ni:1", "35 1 0 :1", "35 2 0 iiiiiiii:0", "36 0 0 ni:1", "37 0 0 :0", "38 0 0 i:0", "39 0 0 n:0",
-        "40 0 0 :1", "41 0 0 i:0"};
+        "0 0 :1", "1 0 :1", "2 0 :1", "3 0 i:0", "4 0 i:0", "5 0 i:2", "6 0 ii:2", "7 0 ii:1", "8 0 ii:1", "9 0 ii:1",
+        "10 0 ii:1", "11 0 ii:1", "12 0 ii:1", "13 0 ii:1", "14 0 ii:1", "15 0 ii:1", "16 0 ii:1", "17 0 ii:1",
+        "18 0 i:1", "19 0 i:0", "20 0 ii:0", "21 0 n:0", "22 0 n:0", "23 0 nn:0", "24 0 nn:0", "25 0 :0", "26 0 :1",
+        "27 0 n:1", "28 0 ni:0", "29 0 n:1", "30 0 n:1", "31 0 i:1", "31 1 i:1", "32 0 n:1", "33 0 ni:1", "34 0 nii:0",
+        "35 0 ni:1", "35 1 :1", "35 2 iiiiiiii:0", "36 0 ni:1", "37 0 :0", "38 0 i:0", "39 0 n:0", "40 0 :1",
+        "41 0 i:0"};
 
     public static void main(String[] args) {
         parametersAreTheFirstLocals();
         handlersCoverFromTo();
         handlersByNumbers();
+        whatStandsBeforeTheCovered();
         theClassAloneOnTheStack();
         noNextOne();
         nothingCameYet();
@@ -42,7 +42,7 @@ public final class StandsTest {
     }
 
     private static void parametersAreTheFirstLocals() {
-        Due.terms("WHAT STANDS before instruction 0: parameters as the first locals, the others UNUSABLE; an empty stack");
+        Due.terms("before instruction 0: parameters as the first locals, the others UNUSABLE; an empty stack");
         for (int locals = 0; locals <= 12; locals++) {
             for (int count = 0; count <= locals && count <= 8; count++) {
                 Run run = new Run();
@@ -96,6 +96,19 @@ public final class StandsTest {
         wrong.verify(0).is(1);
         wrong.stands(0, 1, 0, 0).is(1);
         wrong.stands(0, 2, 0, 0).is(NONE);
+    }
+
+    /** 3 and 5 are covered: local 0 is still UNUSABLE before 3, and so it is on the other way before 5. */
+    private static void whatStandsBeforeTheCovered() {
+        Due.terms("what stands before it comes to the handler's place");
+        for (int covered : new int[] {3, 4, 5}) {
+            Run run = new Run().kinds(1);
+            run.method(NONE, NONE, 1, 1).is(0);
+            run.ops(0, 1, IN, 0).ops(0, 1, IF, 5).ops(0, 1, NULL, 0).ops(0, 1, STORE, 0).ops(0, 3, RETURN, 0);
+            run.handler(0, covered, covered + 1, 0, 6).is(0);
+            run.verify(0).is(0);
+            run.stands(0, 6, 1, 0).is(covered == 4 ? 97 : 99);
+        }
     }
 
     private static void theClassAloneOnTheStack() {
@@ -266,46 +279,45 @@ public final class StandsTest {
     }
 
     private static void aPlaceTooManyOrNone() {
-        Due.terms("a place too many or none is wrong");
+        Due.terms("what they need on the stack, and what they put there; a place too many or none is wrong");
         for (String row : PLACES) {
             String[] parts = row.split("[ :]", -1);
             int op = Integer.parseInt(parts[0]);
             int x = Integer.parseInt(parts[1]);
-            String needs = parts[3];
-            int puts = Integer.parseInt(parts[4]);
+            String needs = parts[2];
+            int puts = Integer.parseInt(parts[3]);
             int most = Math.max(needs.length(), puts);
-            Due.is(row + " fits", verified(op, x, needs, most), 0);
+            boolean isEnd = op == RETURN || op == GIVE || op == THROW;
+            Run fitting = tellInstruction(op, x, needs, most);
+            fitting.verify(3).is(0);
+            fitting.stands(3, needs.length() + 1, 0, 0).is(isEnd ? NONE : puts);
             if (puts > needs.length()) {
-                Due.is(row + " has a place too many", verified(op, x, needs, puts - 1), 1 + needs.length());
+                tellInstruction(op, x, needs, puts - 1).verify(3).is(1 + needs.length());
             }
             for (int missing = 1; missing <= needs.length(); missing++) {
                 String fewer = needs.substring(missing);
-                Due.is(row + " misses " + missing, verified(op, x, fewer, most), 1 + fewer.length());
+                tellInstruction(op, x, fewer, most).verify(3).is(1 + fewer.length());
             }
         }
     }
 
-    /** Class 0 with a field and a slot; methods with 2, no and 8 parameters; the method with the instruction. */
-    private static int verified(int op, int x, String stack, int places) {
-        CodeVerifier v = new CodeVerifier();
-        v.kind(NONE);
-        v.field(0, 0);
-        v.method(0, 0, 2, 0);
-        v.parameter(0, 0);
-        v.slot(0, 0);
-        v.method(NONE, 0, 0, 0);
-        v.method(NONE, NONE, 8, 0);
-        for (int p = 0; p < 8; p++) {
-            v.parameter(2, 0);
-        }
-        int m = v.method(NONE, op == GIVE ? 0 : NONE, 1, places);
-        v.parameter(m, 0);
+    /** Class 0 with a field and a slot; methods with 2, no and 8 parameters; method 3 with the instruction. */
+    private static Run tellInstruction(int op, int x, String stack, int places) {
+        Run run = new Run().kinds(1).fields(0, 1);
+        run.method(0, 0, 2, 0).is(0);
+        run.parameter(0, 0).is(2);
+        run.slot(0, 0).is(true);
+        run.method(NONE, 0, 0, 0).is(1);
+        run.method(NONE, NONE, 8, 0).is(2);
+        run.parameters(2, 8);
+        run.method(NONE, op == GIVE ? 0 : NONE, 1, places).is(3);
+        run.parameter(3, 0).is(1);
         for (char type : stack.toCharArray()) {
-            v.op(m, type == 'i' ? CONST : NULL, 0, 0);
+            run.op(3, type == 'i' ? CONST : NULL);
         }
-        int at = stack.length();
-        v.op(m, op, op >= IF && op <= GOTO ? at + 1 : x, 0);
-        v.op(m, GOTO, at + 1, 0);
-        return v.verify(m);
+        int behind = stack.length() + 1;
+        run.op(3, op, op >= IF && op <= GOTO ? behind : x).is(behind - 1);
+        run.op(3, GOTO, behind).is(behind);
+        return run;
     }
 }

@@ -1,11 +1,19 @@
 /** The boundary cases of GOES INTO and MEETING, and which types are references. */
 public final class TypesTest {
     private static final int NONE = CodeVerifier.NONE;
-    private static final int IFNULL = 21;
+    private static final int POP = 4;
     private static final int IF = 19;
+    private static final int IFNULL = 21;
     private static final int GOTO = 25;
+    private static final int NEW = 26;
+    private static final int GET = 27;
+    private static final int CAST = 30;
+    private static final int ROW = 31;
+    private static final int AT = 33;
+    private static final int CALL = 35;
     private static final int RETURN = 37;
     private static final int GIVE = 38;
+    private static final int THROW = 39;
     private static final int IN = 40;
 
     /** Class 0; classes 1 and 2 under it; class 3 under 1; class 4 alone; rows of ints, of 0 and of 1; NULL, ANY. */
@@ -35,6 +43,8 @@ public final class TypesTest {
         localsMeet();
         placesOfTheStackMeet();
         theLowestOfTwoClasses();
+        theFirstAndTheLastClass();
+        thrownIsAClassOrNull();
         Due.end();
     }
 
@@ -162,6 +172,38 @@ public final class TypesTest {
                 apart.verify(0).is(0);
                 apart.stands(0, end, 2, 0).is(one == other ? 1 + one : 98);
             }
+        }
+    }
+
+    /** What instructions put that name the first or the last class. */
+    private static void theFirstAndTheLastClass() {
+        Due.terms("1 .. 32 class 0 .. 31; 65 .. 96 a row of class 0 .. 31");
+        for (int c : new int[] {0, 31}) {
+            Run run = new Run().kinds(32);
+            run.field(c, 65 + c).is(0);
+            run.method(NONE, 1 + c, 0, 0).is(0);
+            run.method(NONE, NONE, 0, 2).is(1);
+            run.ops(1, 1, NEW, c).ops(1, 1, GET, c).ops(1, 1, IN, 0).ops(1, 1, AT, 0).ops(1, 1, POP, 0);
+            run.ops(1, 1, IN, 0).ops(1, 1, ROW, 1 + c).ops(1, 1, CAST, c).ops(1, 1, POP, 0);
+            run.ops(1, 1, CALL, 0).ops(1, 1, RETURN, 0);
+            run.verify(1).is(0);
+            run.stands(1, 1, 2, 0).is(1 + c);
+            run.stands(1, 2, 2, 0).is(65 + c);
+            run.stands(1, 4, 2, 0).is(1 + c);
+            run.stands(1, 7, 2, 0).is(65 + c);
+            run.stands(1, 8, 2, 0).is(1 + c);
+            run.stands(1, 10, 2, 0).is(1 + c);
+        }
+    }
+
+    private static void thrownIsAClassOrNull() {
+        Due.terms("39 THROW: a class or NULL");
+        for (int type : new int[] {0, 1, 32, 64, 65, 96, 97, 98}) {
+            Run run = new Run().kinds(32).methods(1);
+            Code code = new Code().put(type);
+            int at = code.size();
+            code.add(THROW).tell(run, 0);
+            run.verify(0).is(type == 1 || type == 32 || type == 97 ? 0 : 1 + at);
         }
     }
 }

@@ -59,6 +59,7 @@ public final class VerifyTest {
     }
 
     private static void withoutInstructions() {
+        Due.promise(9, "a method without instructions at 0; NONE when there is no such method");
         CodeVerifier v = world();
         Due.is("no method", v.verify(0), NONE);
         v.method(NONE, NONE, 1, 1);
@@ -72,6 +73,7 @@ public final class VerifyTest {
     }
 
     private static void whatStandsFirst() {
+        Due.terms("WHAT STANDS before instruction 0");
         CodeVerifier v = world();
         int m = v.method(2, NONE, 4, 1);
         v.parameter(m, 64);
@@ -111,6 +113,7 @@ public final class VerifyTest {
     }
 
     private static void meetings() {
+        Due.terms("MEETING");
         meets(0, 0, 0);
         meets(97, 97, 97);
         meets(2, 2, 2);
@@ -137,6 +140,7 @@ public final class VerifyTest {
     }
 
     private static void parameterMeetings() {
+        Due.terms("MEETING (of parameters)");
         meetsAsParameters(64, 64, 64);
         meetsAsParameters(65, 65, 65);
         meetsAsParameters(64, 65, 98);
@@ -152,6 +156,7 @@ public final class VerifyTest {
 
     /** NULL, then a row, then an object come to instruction 2: NULL, the row, ANY, and NULL no more. */
     private static void anyAndNullMeet() {
+        Due.terms("of NULL and another reference the other one");
         CodeVerifier v = world();
         int m = v.method(NONE, NONE, 3, 1);
         v.parameter(m, 64);
@@ -167,6 +172,7 @@ public final class VerifyTest {
     }
 
     private static void unusableMeets() {
+        Due.terms("otherwise UNUSABLE");
         CodeVerifier v = world();
         int m = v.method(NONE, NONE, 2, 1);
         ops(v, m, IN, 0, IF, 4, CONST, 0, STORE, 0, NULL, 0, STORE, 1, GOTO, 4);
@@ -177,6 +183,7 @@ public final class VerifyTest {
     }
 
     private static void wrongMeetingsOnTheStack() {
+        Due.terms("WRONG, when two places of it meet as UNUSABLE");
         CodeVerifier v = world();
         int m = v.method(NONE, NONE, 0, 2);
         ops(v, m, IN, 0, IF, 4, CONST, 0, GOTO, 5, NULL, 0, POP, 0, RETURN, 0);
@@ -190,6 +197,7 @@ public final class VerifyTest {
     }
 
     private static void wrongHeights() {
+        Due.terms("WRONG, when the stack is not as high");
         CodeVerifier v = world();
         int m = v.method(NONE, NONE, 0, 2);
         ops(v, m, CONST, 0, GOTO, 0);
@@ -206,6 +214,7 @@ public final class VerifyTest {
 
     /** Local 0 and place 0 meet before place 1 is wrong; local 1 is untouched where the heights differ. */
     private static void whatMetBeforeAWrongPlaceStays() {
+        Due.terms("all locals and places of the stack meet, from the first ones on");
         CodeVerifier v = world();
         int m = v.method(NONE, NONE, 1, 3);
         v.parameter(m, 2);
@@ -223,6 +232,7 @@ public final class VerifyTest {
     }
 
     private static void wrongAtWhatJumps() {
+        Due.promise(9, "A target that is no instruction is wrong at what jumps there");
         CodeVerifier v = world();
         int m = v.method(NONE, NONE, 0, 1);
         ops(v, m, CONST, 0, IF, 3, RETURN, 0);
@@ -245,6 +255,7 @@ public final class VerifyTest {
 
     /** IF's next one is wrong before its target, which is none, is. */
     private static void nextComesBeforeTarget() {
+        Due.terms("what stands behind it comes to the next one, then, of a jump, to its target");
         CodeVerifier v = world();
         int m = v.method(NONE, NONE, 0, 3);
         ops(v, m, IN, 0, IF, 5, IN, 0, IN, 0, IF, 199, RETURN, 0);
@@ -260,6 +271,7 @@ public final class VerifyTest {
     }
 
     private static void handlersComeBeforeTheInstruction() {
+        Due.terms("For each handler, by numbers; then the instruction is done");
         CodeVerifier v = world();
         int m = v.method(NONE, NONE, 1, 2);
         ops(v, m, CONST, 0, STORE, 0, RETURN, 0, THROW, 0);
@@ -288,6 +300,7 @@ public final class VerifyTest {
     }
 
     private static void handlersCoverFromTo() {
+        Due.terms("whose from <= it < to");
         for (int from = 0; from < 3; from++) {
             CodeVerifier v = world();
             int m = v.method(NONE, NONE, 1, 1);
@@ -305,6 +318,7 @@ public final class VerifyTest {
     }
 
     private static void handlersWithoutPlace() {
+        Due.promise(9, "A place of a handler that is no instruction is wrong at what is covered by it");
         CodeVerifier v = world();
         int m = v.method(NONE, NONE, 0, 1);
         ops(v, m, CONST, 0, POP, 0, RETURN, 0);
@@ -318,6 +332,7 @@ public final class VerifyTest {
     }
 
     private static void handlersNeedAPlaceOnTheStack() {
+        Due.terms("with the handler's class alone on the stack");
         CodeVerifier v = world();
         int m = v.method(NONE, NONE, 12, 0);
         ops(v, m, GOTO, 1, RETURN, 0);
@@ -328,6 +343,7 @@ public final class VerifyTest {
 
     /** What stands before 1 has met the handler's class when 1 is done. */
     private static void handlerOfItsOwnPlace() {
+        Due.terms("Then the instruction is done");
         CodeVerifier v = world();
         int m = v.method(NONE, 2, 0, 1);
         ops(v, m, NEW, 1, GIVE, 0);
@@ -339,6 +355,7 @@ public final class VerifyTest {
     }
 
     private static void nothingBehindEnds() {
+        Due.terms("unless it is GOTO, RETURN, GIVE or THROW");
         int[] ends = {GOTO, RETURN, GIVE, THROW};
         for (int op : ends) {
             CodeVerifier v = world();
@@ -351,6 +368,7 @@ public final class VerifyTest {
 
     /** Local 0 climbs from class 3 to class 1 to class 0 around one loop. */
     private static void loopsAreLookedAtAgain() {
+        Due.promise(11, "each time counted");
         CodeVerifier v = world();
         int m = v.method(NONE, NONE, 1, 1);
         ops(v, m, NEW, 3, STORE, 0, LOAD, 0, IFNULL, 7);
@@ -367,6 +385,7 @@ public final class VerifyTest {
 
     /** 1 marks 2 and 5; 5 is looked at only when what 2 leads to has been. */
     private static void leastMarkedFirst() {
+        Due.terms("As long as some instruction is marked, the least one is");
         CodeVerifier v = world();
         int m = v.method(NONE, NONE, 0, 1);
         ops(v, m, IN, 0, IF, 5, IN, 0, IF, 6, RETURN, 0, POP, 0, POP, 0);
@@ -379,6 +398,7 @@ public final class VerifyTest {
     }
 
     private static void standsAnswersNone() {
+        Due.promise(10, "NONE when nothing came there, there is none, it was not verified");
         CodeVerifier v = world();
         int m = v.method(NONE, NONE, 2, 3);
         v.parameter(m, 1);
@@ -407,6 +427,7 @@ public final class VerifyTest {
     }
 
     private static void standsIsKeptForEachMethod() {
+        Due.promise(10, "What the last verify() of a method found");
         CodeVerifier v = world();
         int one = v.method(NONE, NONE, 1, 1);
         int other = v.method(NONE, NONE, 1, 1);
@@ -422,6 +443,7 @@ public final class VerifyTest {
     }
 
     private static void standsEndsWithMoreTold() {
+        Due.promise(10, "NONE when told a parameter, instruction or handler more since");
         CodeVerifier v = world();
         int m = v.method(NONE, NONE, 1, 1);
         ops(v, m, CONST, 0, RETURN, 0);
@@ -445,6 +467,7 @@ public final class VerifyTest {
 
     /** A called method that has a parameter more by then needs it. */
     private static void verifiesAsTold() {
+        Due.promise(9, "Verifies a method as it is told");
         CodeVerifier v = world();
         int called = v.method(NONE, NONE, 2, 0);
         int m = v.method(NONE, NONE, 0, 2);
@@ -458,6 +481,7 @@ public final class VerifyTest {
     }
 
     private static void lookedIsOfTheLast() {
+        Due.promise(11, "How many instructions were looked at by the last verify()");
         CodeVerifier v = world();
         int m = v.method(NONE, NONE, 0, 2);
         ops(v, m, CONST, 0, RETURN, 0);
