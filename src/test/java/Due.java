@@ -17,6 +17,11 @@ final class Due {
         sentence = "terms, \"" + words + "\": ";
     }
 
+    /** The answers that follow are due by these words of a rule of LANGUAGE.md (0: what stands above its rules). */
+    static void rule(int number, String words) {
+        sentence = "rule " + number + ", \"" + words + "\": ";
+    }
+
     static void is(String call, long got, long want) {
         asked++;
         if (got != want) {

@@ -1,8 +1,11 @@
+import com.sun.management.ThreadMXBean;
+import java.lang.management.ManagementFactory;
 import java.util.Random;
 
-/** No call throws or fails to end, for any arguments in any state, also far behind the 512th. */
+/** No call throws or fails to end, for any arguments in any state, also far behind the 512th; how much is made. */
 public final class LimitsTest {
     private static final int NONE = CodeVerifier.NONE;
+    private static final int VERIFIED = 1000;
     private static final int[] EDGES = {
         Integer.MIN_VALUE, Integer.MIN_VALUE + 1, -3, -2, -1, 0, 1, 2, 7, 8, 9, 11, 12, 13, 14, 15, 16, 17, 31, 32, 33,
         41, 42, 63, 64, 65, 66, 96, 97, 98, 99, 100, 199, 200, 201, Integer.MAX_VALUE - 1, Integer.MAX_VALUE};
@@ -12,6 +15,7 @@ public final class LimitsTest {
         edgesOnAFullObject();
         manyCalls();
         typesClimbAllClasses();
+        verifyMakesNoObjects();
         Due.end();
     }
 
@@ -123,7 +127,7 @@ public final class LimitsTest {
     }
 
     /** A loop in which one local after the other climbs from class 31 upward, a few classes at a time. */
-    private static void typesClimbAllClasses() {
+    private static CodeVerifier climbing() {
         CodeVerifier v = new CodeVerifier();
         for (int c = 0; c < 32; c++) {
             v.kind(c - 1);
@@ -145,11 +149,31 @@ public final class LimitsTest {
             v.op(m, 3, k + 1, 0);
         }
         v.op(m, 25, 0, 0);
+        return v;
+    }
+
+    private static void typesClimbAllClasses() {
+        CodeVerifier v = climbing();
+        int m = 0;
         Due.is("verify", v.verify(m), 0);
         Due.is("looked at often", v.looked() > 1000, true);
         for (int k = 0; k < 8; k++) {
             Due.is("local " + k, v.stands(m, 0, 1, k), k == 7 ? 7 : 7 - k);
         }
         System.out.println(v.looked() + " looked at");
+    }
+
+    /** All calls of one run share a room, so what each verify makes would count as often as it is called. */
+    private static void verifyMakesNoObjects() {
+        ThreadMXBean thread = (ThreadMXBean) ManagementFactory.getThreadMXBean();
+        CodeVerifier v = climbing();
+        v.verify(0);
+        long before = thread.getCurrentThreadAllocatedBytes();
+        for (int time = 0; time < VERIFIED; time++) {
+            v.verify(0);
+        }
+        long made = thread.getCurrentThreadAllocatedBytes() - before;
+        // The smallest object has 16 bytes; what the asking itself makes is far below one for each call.
+        Due.is("verify made no objects, but " + made + " bytes", made < 16L * VERIFIED, true);
     }
 }
